@@ -17,6 +17,7 @@ public final class ChangesTest {
         promise7Begin();
         promise7Coins();
         promise7Foggy();
+        promise7FoggyWithSeveralGroups();
         promise7FogIsOfTheShowsLampsAsItBegins();
         promise7FogHasABound();
         promise7LastTime();
@@ -248,6 +249,7 @@ public final class ChangesTest {
         Due.is("run() passes over one without seats", x.run(), 25);
         Due.is("now", x.count(0), 15);
         Due.is("those that wait", x.count(2), 2 + 4 + 8);
+        Due.is("each of them has paid", x.count(3), 125);
         Due.is("run() of 21 and 15", x.run(), 36);
         Due.is("run() of the other show", x.run(), 5);
         Due.is("none waits", x.count(2), 0);
@@ -370,6 +372,34 @@ public final class ChangesTest {
         Due.is("the time from which it waited last", x.ofGroup(1, 2), 130);
         Due.is("its runs", x.ofGroup(1, 4), 2);
         Due.is("foggy ones", x.count(5), 1);
+    }
+
+    private static void promise7FoggyWithSeveralGroups() {
+        DomeLamps x = new DomeLamps();
+        x.set(DomeLamps.FOG, 50);
+        x.set(DomeLamps.DIM, 5);
+        Due.told(x, 0, "a1", 1);
+        x.group(10, 0, 50);
+        x.group(11, 0, 0);
+        x.group(31, 0, 50);
+        x.group(12, 0, 50);
+        Due.is("run() that fogs the lens", x.run(), 11);
+        Due.is("run() of two, foggy", x.run(), 22);
+        Due.is("those that wait", x.count(2), 1 + 4 + 8);
+        int[] times = {61, 0, 50, 61};
+        int[] runs = {1, 1, 0, 1};
+        for (int group = 0; group < 4; group++) {
+            Due.is("ofGroup(" + group + ", 2)", x.ofGroup(group, 2), times[group]);
+            Due.is("ofGroup(" + group + ", 4)", x.ofGroup(group, 4), runs[group]);
+        }
+        Due.is("coins", x.count(3), 165);
+        Due.is("run() of the one that found no seats", x.run(), 31);
+        Due.is("coins", x.count(3), 320);
+        x.lens(0);
+        Due.is("run() of the two at 61", x.run(), 22);
+        Due.is("coins are paid once", x.count(3), 320);
+        Due.is("those that wait", x.count(2), 4);
+        Due.is("it waits from", x.ofGroup(2, 2), 62);
     }
 
     private static void promise7FogIsOfTheShowsLampsAsItBegins() {

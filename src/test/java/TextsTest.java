@@ -67,6 +67,12 @@ public final class TextsTest {
         Due.is("wipe is not a change", x.count(14), 0);
         Due.told(x, 0, "b2", 2);
         Due.is("nothing is left of what was wiped", x.ofShow(0, 1), 2);
+        Due.write(x, "9*(9*(cd");
+        Due.is("fault()", x.fault(), 8);
+        x.wipe();
+        Due.told(x, 0, "2*(f3)", 6);
+        Due.is("lamps behind a text with a fault", x.ofShow(0, 1), 32);
+        Due.is("depth behind it", x.ofShow(0, 3), 1);
     }
 
     private static void promise21Fault() {
