@@ -24,6 +24,7 @@ public final class RunSentencesTest {
         nowIsTheEnd();
         paysOnce();
         foggyGroupsWaitOn();
+        foggyGroups0And19();
         otherwiseTheyHaveSeenIt();
         runIsAChange();
         runReturnsPersons();
@@ -419,6 +420,32 @@ public final class RunSentencesTest {
         Due.is("run() of the other show", x.run(), 1);
         Due.is("run() of the two once more", x.run(), 40);
         Due.is("now", x.count(0), 41);
+    }
+
+    /** The first and the last group that there may be are in it; group 1 fogs the lens before. */
+    private static void foggyGroups0And19() {
+        DomeLamps x = Due.withShows("a10");
+        x.set(DomeLamps.DIM, 5);
+        x.group(3, 0, 1);
+        x.group(40, 0, 0);
+        for (int group = 2; group < 19; group++) {
+            x.group(60, 1, 9999);
+        }
+        Due.is("group 19", x.group(4, 0, 1), 19);
+        Due.is("run() of group 1", x.run(), 40);
+        Due.is("run() of groups 0 and 19", x.run(), 7);
+        Due.is("coins", x.count(3), 235);
+        Due.is("groups that wait", x.count(2), (1 << 20) - 1 - 2);
+        int[] groups = {0, 19};
+        for (int group : groups) {
+            Due.is("ofGroup(" + group + ", 2)", x.ofGroup(group, 2), 30);
+            Due.is("ofGroup(" + group + ", 3)", x.ofGroup(group, 3), 0);
+            Due.is("ofGroup(" + group + ", 4)", x.ofGroup(group, 4), 1);
+        }
+        x.lens(0);
+        Due.is("run() of groups 0 and 19, once more", x.run(), 7);
+        Due.is("coins, as before", x.count(3), 235);
+        Due.is("groups that wait", x.count(2), (1 << 19) - 4);
     }
 
     private static void otherwiseTheyHaveSeenIt() {

@@ -245,6 +245,10 @@ public final class ShowsSentencesTest {
             Due.is("the show behind '" + text + "'", x.ofShow(0, 0), 1);
             Due.is("changes behind '" + text + "'", x.count(14), 1);
             Due.is("the pad behind '" + text + "'", x.wipe(), text.length());
+            Due.told(x, 0, "f1", 1);
+            Due.is("nothing is left of '" + text + "'", x.at(0, 0), 32);
+            Due.is("no repeat is left of '" + text + "'", x.ofShow(0, 3), 0);
+            x.undo();
         }
         String full = "a1,".repeat(26) + "a1";
         Due.is("length of a full text", full.length(), 80);
